@@ -132,6 +132,13 @@ final class Check {
         return length == text.length() ? text : "length " + length + " of " + text;
     }
 
+    /** Runs a question on to its next solution, or to its end. */
+    static void runOn(HornBench bench) {
+        for (int k = 0; k < 3 && (k == 0 || bench.status() == 0); k++) {
+            bench.run(500);
+        }
+    }
+
     /** All solutions of a question: what a variable is in each, and how it ended. */
     static String solutions(HornBench bench, int variable) {
         StringBuilder text = new StringBuilder();
