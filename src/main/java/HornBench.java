@@ -1129,16 +1129,13 @@ public final class HornBench {
             return local == NONE ? NONE : place - place % Nodes.EACH + local;
         }
 
-        /** The cell of a variable, or NONE for all other terms. */
-        int cell(int term) {
-            if (term >= CELLS) {
-                return term - CELLS;
-            }
-            int node = node(term);
+        /** The cell of a variable's place, or NONE for the places of all other terms. */
+        int cell(int place) {
+            int node = node(place);
             if (nodes.kind(node) != VARIABLE) {
                 return NONE;
             }
-            return term / Nodes.EACH * MOST_VARIABLES + nodes.value(node);
+            return place / Nodes.EACH * MOST_VARIABLES + nodes.value(node);
         }
 
         /** What a term is in the end: itself, or what is bound to it, or a free variable. */
@@ -1610,7 +1607,8 @@ public final class HornBench {
                     return true;
                 case VAR: return terms.isFree(terms.end(first));
                 case UNIFY: return matcher.match(first, terms.next(first), true);
-                case APART: return !canMatch(first, terms.next(first));
+                // What this binds is taken back at once, for then the goal fails.
+                case APART: return !matcher.match(first, terms.next(first), true);
                 case SAME: return matcher.match(first, terms.next(first), false);
                 case IS: return assign(first, terms.next(first));
                 case LESS: case GREATER: case AT_MOST: case AT_LEAST:
@@ -1640,13 +1638,6 @@ public final class HornBench {
                 clause = other;
             }
             return false;
-        }
-
-        private boolean canMatch(int a, int b) {
-            int mark = terms.trailed();
-            boolean good = matcher.match(a, b, true);
-            terms.undo(mark);
-            return good;
         }
 
         private boolean assign(int term, int expression) {

@@ -10,6 +10,8 @@ public final class ClausesTest {
         tellingOfClauses();
         uses();
         wrongNumbers();
+        whatWasReadInVain();
+        fullAndDropped();
         CHECK.end();
     }
 
@@ -137,5 +139,41 @@ public final class ClausesTest {
             CHECK.fails("count(" + what + ")", bench,
                 IndexOutOfBoundsException.class, () -> bench.count(what));
         }
+    }
+
+    private static void whatWasReadInVain() {
+        HornBench bench = Check.bench("p(1). p(2).");
+        Check.add(bench, "p(3). q(4). p(");
+        CHECK.same("predicates", bench.count(1), 1);
+        CHECK.same("no clause of it is used", Check.solutions(Check.asked(bench, "p(X)."), 0), "1 2 2");
+        bench.drop(1);
+        CHECK.same("nor a dropped one", Check.solutions(Check.asked(bench, "p(X)."), 0), "1 2");
+        CHECK.same("predicates behind drop", bench.count(1), 1);
+    }
+
+    private static void fullAndDropped() {
+        HornBench bench = Check.bench("p(0).");
+        StringBuilder due = new StringBuilder("0 ");
+        for (int k = 1; k < 40; k++) {
+            Check.add(bench, "p(" + k + ").");
+            due.append(k).append(' ');
+        }
+        CHECK.same("40 clauses", Check.solutions(Check.asked(bench, "p(X)."), 0), due + "2");
+        int[] dropped = {39, 0, 17, 0, 30};
+        for (int clause : dropped) {
+            bench.drop(clause);
+        }
+        for (int k = 50; k < 55; k++) {
+            Check.add(bench, "p(" + k + ").");
+        }
+        // 39, 0, 18, 1 and 33 were dropped.
+        StringBuilder left = new StringBuilder();
+        for (int k = 2; k < 55; k++) {
+            if (k != 18 && k != 33 && (k < 39 || k >= 50)) {
+                left.append(k).append(' ');
+            }
+        }
+        CHECK.same("dropped and added", Check.solutions(Check.asked(bench, "p(X)."), 0), left + "2");
+        CHECK.same("one too many", Check.add(bench, "p(60)."), 2);
     }
 }

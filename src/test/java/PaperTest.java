@@ -13,6 +13,7 @@ public final class PaperTest {
         sixHundredBytes();
         thePlaceOfWhatWasThere();
         bytes();
+        behindTooLong();
         CHECK.end();
     }
 
@@ -229,5 +230,27 @@ public final class PaperTest {
         bench.run(1);
         bench.write(0);
         CHECK.fails("behind a shorter text", bench, IndexOutOfBoundsException.class, () -> bench.byteAt(2));
+    }
+
+    private static void behindTooLong() {
+        HornBench bench = Check.asked(LONG, "w(119,abcde,X),w(120,a,Y),Z=[X|X],q(f(X,X),2),p.");
+        Check.runOn(bench);
+        CHECK.same("solved up to p", bench.status(), 2);
+        bench = Check.asked(LONG, "w(119,abcde,X),w(120,a,Y),Z=[X|X],q(f(X,X),2).");
+        bench.run(500);
+        bench.run(119 * 3 + 120 * 3 + 3 - 500);
+        HornBench here = bench;
+        CHECK.same("q is next", bench.count(5), 1);
+        CHECK.fails("write of Z", bench, IllegalStateException.class, () -> here.write(2));
+        CHECK.same("600 behind it", bench.write(0), 600);
+        CHECK.fails("writeGoal", bench, IllegalStateException.class, () -> here.writeGoal());
+        CHECK.fails("write of Y", bench, IllegalStateException.class, () -> here.write(1));
+        CHECK.same("600 behind these", bench.write(0), 600);
+        Check.asked(bench, "p,X=a.");
+        CHECK.same("a short one", Check.written(bench, 0), "_0");
+        CHECK.same("a goal", Check.writtenGoal(bench), "p");
+        bench = Check.asked("p.", "p.");
+        bench.run(1);
+        CHECK.same("nothing at a solution", Check.writtenGoal(bench), "");
     }
 }

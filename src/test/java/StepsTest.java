@@ -17,6 +17,9 @@ public final class StepsTest {
         thousandSteps();
         goalsOfTheRow();
         stepsEach();
+        aNewQuestionBeginsAnew();
+        asMuchAsThereCanBe();
+        manyFailingUnifications();
         CHECK.end();
     }
 
@@ -312,5 +315,60 @@ public final class StepsTest {
         Check.asked(bench, "fail.");
         bench.run(1);
         CHECK.same("steps, but no solutions", bench.stepsEach(), 0.0);
+    }
+
+    private static void aNewQuestionBeginsAnew() {
+        HornBench bench = Check.asked("p(1). p(2). q(3).", "p(X),q(X).");
+        bench.run(2);
+        CHECK.same("to be gone back to first", Check.writtenGoal(bench), "");
+        Check.asked(bench, "q(Y),p(Z).");
+        CHECK.same("the first goal", Check.writtenGoal(bench), "q(_0)");
+        CHECK.same("its solution", bench.run(500), 2);
+        CHECK.same("Y", bench.number(0), 3);
+        CHECK.same("Z", bench.number(1), 1);
+        Check.asked(bench, "p(Z),fail.");
+        bench.run(1);
+        Check.asked(bench, "fail.");
+        bench.run(500);
+        state("the old choices are gone", bench, 2, 0, 1, 0);
+    }
+
+    private static void asMuchAsThereCanBe() {
+        HornBench bench = Check.asked("p:-p,p,p,p,p,p,p,p. q:-q,!. q:-p.", "p,p,p,p,p,p,p,p.");
+        Check.runOn(bench);
+        state("the longest row", bench, 4, 7008, 1000, 0);
+        CHECK.same("its first goal", Check.writtenGoal(bench), "p");
+        Check.asked(bench, "q.");
+        Check.runOn(bench);
+        state("as many choices", bench, 4, 1001, 1000, 0);
+        bench = Check.asked("n:-not(not(fail,fail,fail,fail),fail),n. m(0). m(N):-M is N-1,m(M).", "n.");
+        Check.runOn(bench);
+        CHECK.same("as many nots", bench.status(), 4);
+        // 334 choices are left and gone back to, one by one, of which none fits.
+        bench = Check.asked("m(0,_). m(N,X):-M is N-1,m(M,X). m(_,1):-fail.", "m(300,2),fail.");
+        Check.runOn(bench);
+        CHECK.same("m(0,2) is tried below 0, on and on", bench.status(), 4);
+        bench = Check.asked("c(0,_):-!. c(N,X):-M is N-1,c(M,X). c(_,1):-fail.", "c(330,2),fail.");
+        Check.runOn(bench);
+        state("all gone", bench, 2, 0, 330 * 2 + 3, 0);
+        Check.asked(bench, "c(330,1),fail.");
+        Check.runOn(bench);
+        state("some go on, up to 1000", bench, 4, 2, 1000, 0);
+    }
+
+    private static void manyFailingUnifications() {
+        StringBuilder program = new StringBuilder("l(X):-p(X,Y,99),l(Y).");
+        for (int k = 0; k < 38; k++) {
+            program.append(" p(A,f(A,B,_),").append(k).append(").");
+        }
+        program.append(" p(A,A,99).");
+        HornBench bench = Check.asked(program.toString(), "l(Z),Z=1.");
+        Check.runOn(bench);
+        state("each step tries all clauses", bench, 4, 2, 1000, 0);
+        CHECK.same("Z is free still", Check.written(bench, 0), "_0");
+        CHECK.same("uses", bench.clause(39, 3), 500);
+        CHECK.same("what failed was not used", bench.clause(7, 3), 0);
+        Check.asked(bench, "p(f(X),Y,Z),Z>=38.");
+        CHECK.same("to the last one", Check.solutions(bench, 1), "f(_0) 2");
     }
 }

@@ -14,6 +14,9 @@ public final class SyntaxTest {
         terms();
         questions();
         errorPlaces();
+        everyByte();
+        twoThousandTokens();
+        eachTextBeginsAnew();
         CHECK.end();
     }
 
@@ -264,5 +267,42 @@ public final class SyntaxTest {
         CHECK.same("errorAt behind drop, feed and trim", bench.errorAt(), 2);
         bench.add();
         CHECK.same("errorAt behind a right add", bench.errorAt(), -1);
+    }
+
+    private static void everyByte() {
+        for (int b = 0; b < 256; b++) {
+            String text = String.valueOf((char) b);
+            boolean small = b >= 'a' && b <= 'z';
+            boolean digit = b >= '0' && b <= '9';
+            boolean blank = b == ' ' || b == 10;
+            program(text + ".", small ? -1 : blank ? 1 : 0);
+            program("a" + text + ".", small || digit || blank ? -1 : b == '.' ? 2 : b == '(' ? 2 : 1);
+            boolean begins = small || b >= 'A' && b <= 'Z' || b == '_';
+            boolean opens = b == '(' || b == '[' || b == '-';
+            question("X=" + text + ".", begins || digit ? -1 : b == '=' || b == '<' || blank || opens ? 3 : 2);
+            question("X=1" + text + "2.", digit || "+-*/".indexOf(b) >= 0 ? -1
+                : b == '<' || b == '>' || b == '=' ? 3 : blank ? 4 : b == '.' ? 4 : b == ',' ? 5 : 3);
+        }
+    }
+
+    private static void twoThousandTokens() {
+        HornBench bench = new HornBench();
+        CHECK.same("1000 clauses are 960 too many", Check.consult(bench, Check.repeat("a.", 1000)), 2);
+        CHECK.same("the 41st", bench.errorAt(), 80);
+        CHECK.same("2000 bytes and no end", Check.consult(bench, Check.repeat("a.", 999) + "aa"), 1);
+        CHECK.same("the end", bench.errorAt(), 2000);
+        CHECK.same("blanks", Check.consult(bench, " a" + Check.repeat(" ", 1997) + "."), 0);
+    }
+
+    private static void eachTextBeginsAnew() {
+        HornBench bench = new HornBench();
+        Check.consult(bench, "a([[[[[[[b");
+        String deep = "a([[[[[[[b]]]]]]]).";
+        CHECK.same("depth", Check.consult(bench, deep), 0);
+        CHECK.same("depth of each clause", Check.add(bench, deep + deep), 0);
+        Check.consult(bench, "a([A,B,C,D,E,F,G,H]):-b,b,b,b,b,b,b");
+        CHECK.same("variables and goals", Check.consult(bench, "a([S,T,U,V,W,X,Y,Z]):-b,b,b,b,b,b,b,b."), 0);
+        Check.ask(bench, "a([S,T,U,V,W,X,Y,Z]),b,b,b,b,b,b,b");
+        CHECK.same("a question", Check.ask(bench, "b([A,B,C,D,E,F,G,H]),b,b,b,b,b,b,b."), 0);
     }
 }

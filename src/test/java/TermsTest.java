@@ -16,6 +16,7 @@ public final class TermsTest {
         isSame();
         sharedTerms();
         deepTerms();
+        manyLongLists();
         CHECK.end();
     }
 
@@ -335,5 +336,21 @@ public final class TermsTest {
         CHECK.same("steps", bench.count(6), 601 + 201);
         CHECK.same("601 bytes are too many, 601 here", bench.count(3), 0);
         CHECK.fails("write", bench, IllegalStateException.class, () -> bench.write(0));
+    }
+
+    private static void manyLongLists() {
+        String list = "[" + Check.repeat("a,", 19) + "a|X]";
+        HornBench bench = Check.bench("l(L):-L=" + list + ",l(L). eq(L):-L==" + list + ".");
+        for (int k = 0; k < 5; k++) {
+            Check.asked(bench, "l(" + list + ").");
+            Check.runOn(bench);
+            CHECK.same("lists that are unified", bench.status(), 4);
+        }
+        Check.asked(bench, "f(a,b)=f(a,c).");
+        bench.run(1);
+        CHECK.same("others are not unified", bench.status(), 2);
+        Check.asked(bench, "X=[1,2],Y=[1,2],X==Y,[X|Y]==[Y|X],f(X,3)=f(Y,4).");
+        CHECK.same("but for the last", bench.run(500), 5);
+        CHECK.same("which fails", bench.status(), 2);
     }
 }
