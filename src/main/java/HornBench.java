@@ -787,7 +787,7 @@ public final class HornBench {
             } else {
                 taken++;
                 at++;
-                kind = at < tokens.kinds.length ? tokens.kinds[at] : BAD;
+                kind = at >= 0 && at < tokens.kinds.length ? tokens.kinds[at] : BAD;
             }
         }
 

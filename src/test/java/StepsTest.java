@@ -357,18 +357,21 @@ public final class StepsTest {
     }
 
     private static void manyFailingUnifications() {
-        StringBuilder program = new StringBuilder("l(X):-p(X,Y,99),l(Y).");
+        StringBuilder program = new StringBuilder("l(N):-p(X,f(Y,Z,Z),99),M is N+1,l(M).");
         for (int k = 0; k < 38; k++) {
             program.append(" p(A,f(A,B,_),").append(k).append(").");
         }
-        program.append(" p(A,A,99).");
-        HornBench bench = Check.asked(program.toString(), "l(Z),Z=1.");
-        Check.runOn(bench);
-        state("each step tries all clauses", bench, 4, 2, 1000, 0);
-        CHECK.same("Z is free still", Check.written(bench, 0), "_0");
-        CHECK.same("uses", bench.clause(39, 3), 500);
-        CHECK.same("what failed was not used", bench.clause(7, 3), 0);
-        Check.asked(bench, "p(f(X),Y,Z),Z>=38.");
-        CHECK.same("to the last one", Check.solutions(bench, 1), "f(_0) 2");
+        program.append(" p(A,_,99).");
+        HornBench bench = Check.bench(program.toString());
+        for (int k = 1; k <= 9; k++) {
+            Check.asked(bench, "l(0),true.");
+            Check.runOn(bench);
+            state("each goal p tries all clauses", bench, 4, 4, 1000, 0);
+            CHECK.same("333 times 3 steps, and one", Check.writtenGoal(bench), "p(_0,f(_1,_2,_2),99)");
+            CHECK.same("uses", bench.clause(39, 3), 333 * k);
+            CHECK.same("what failed was not used", bench.clause(7, 3), 0);
+        }
+        Check.asked(bench, "p(f(X),f(Y,_,_),Z),Z>=37.");
+        CHECK.same("the last two", Check.solutions(bench, 1), "f(_0) _0 2");
     }
 }
