@@ -1209,7 +1209,7 @@ public final class HornBench {
         boolean standsIn(int variable, int term) {
             boolean found = false;
             int part = term;
-            for (int k = 0; k <= seen.size() && !found; k++) {
+            for (int k = 0; k <= MOST_CELLS && k <= seen.size() && !found; k++) {
                 if (part >= CELLS) {
                     seen.include(part - CELLS);
                 } else if (part >= 0 && part < RESULTS) {
@@ -1254,7 +1254,7 @@ public final class HornBench {
         boolean match(int a, int b, boolean binds) {
             int mark = terms.trailed();
             boolean good = join(a, b, binds);
-            for (int k = 0; k < size && good; k++) {
+            for (int k = 0; k < joined.length && k < size && good; k++) {
                 int place = at(joined, k);
                 int p = terms.first(place);
                 int q = terms.first(at(links, place) - 1);
@@ -1264,7 +1264,7 @@ public final class HornBench {
                     q = terms.next(q);
                 }
             }
-            for (int k = 0; k < size; k++) {
+            for (int k = 0; k < joined.length && k < size; k++) {
                 put(links, at(joined, k), 0);
             }
             size = 0;
@@ -1713,6 +1713,8 @@ public final class HornBench {
         private static final int KINDS = 8;
         /** Far more than the items of a full paper: an item without a byte is one of few in a row. */
         private static final int MOST_ITEMS = 1000000;
+        /** Of a 32-bit number. */
+        private static final int MOST_DIGITS = 10;
 
         private final Terms terms;
         private final byte[] paper = new byte[MOST_WRITTEN];
@@ -1907,11 +1909,12 @@ public final class HornBench {
                 left = -left;
             }
             long unit = 1;
-            for (int k = 0; k < 10 && unit * 10 <= left; k++) {
+            for (int k = 1; k < MOST_DIGITS && unit * 10 <= left; k++) {
                 unit *= 10;
             }
-            for (; unit > 0; unit /= 10) {
+            for (int k = 0; k < MOST_DIGITS && unit > 0; k++) {
                 writeByte((int) ('0' + left / unit % 10));
+                unit /= 10;
             }
         }
 

@@ -14,6 +14,12 @@ public final class PaperTest {
         thePlaceOfWhatWasThere();
         bytes();
         behindTooLong();
+        everyLengthOfNumbers();
+        manyVariables();
+        lengthsOfLists();
+        lengthsOfSums();
+        lengthsOfGoals();
+        variablesFromFirstToLast();
         CHECK.end();
     }
 
@@ -252,5 +258,151 @@ public final class PaperTest {
         bench = Check.asked("p.", "p.");
         bench.run(1);
         CHECK.same("nothing at a solution", Check.writtenGoal(bench), "");
+    }
+
+    private static void numberWritten(int number) {
+        HornBench bench = Check.asked("", "X is " + (number >> 16) + "*65536+" + (number & 65535) + ".");
+        bench.run(1);
+        CHECK.same("write of a number", Check.written(bench, 0), String.valueOf(number));
+        CHECK.same("number", bench.number(0), number);
+    }
+
+    private static void everyLengthOfNumbers() {
+        int power = 1;
+        for (int digits = 1; digits <= 10; digits++) {
+            for (int near = power - 1; near <= power + 1; near++) {
+                numberWritten(near);
+                numberWritten(-near);
+            }
+            power *= 10;
+        }
+        numberWritten(Integer.MAX_VALUE);
+        numberWritten(-Integer.MAX_VALUE);
+        numberWritten(Integer.MIN_VALUE);
+    }
+
+    private static void manyVariables() {
+        HornBench bench = Check.asked("v(0,[]). v(N,[_|T]):-N>0,M is N-1,v(M,T).", "v(120,X),Y=[X|Z].");
+        bench.run(500);
+        StringBuilder due = new StringBuilder("[_0");
+        for (int k = 1; k < 120; k++) {
+            due.append(",_").append(k);
+        }
+        CHECK.same("120 variables", Check.written(bench, 0), due + "]");
+        CHECK.same("and one behind them", Check.written(bench, 1), "[" + due + "]|_120]");
+    }
+
+    /** Writes a variable whose text is due, or is refused if it has more than 600 bytes. */
+    private static void text(HornBench bench, int variable, String due) {
+        int length = due.length();
+        String before = Check.paper(bench);
+        if (length > 600) {
+            CHECK.fails("write of " + length, bench, IllegalStateException.class, () -> bench.write(variable));
+            CHECK.same("the paper behind " + length, Check.paper(bench), before);
+        } else {
+            CHECK.same("write of " + length, Check.written(bench, variable), due);
+            CHECK.same("count(3)", bench.count(3), length);
+            CHECK.fails("behind the last byte", bench, IndexOutOfBoundsException.class, () -> bench.byteAt(length));
+        }
+    }
+
+    /** A list ends with a byte of its own, a sum with the last of its terms. */
+    private static void lengthsOfLists() {
+        String program = "y(0,X,X). y(N,X,Y):-N>0,M is N-1,y(M,[a,a,a,a,a|X],Y).";
+        String before = "[" + Check.repeat("a,", 5 * 59);
+        String open = "[" + Check.repeat("a,", 5 * 59 - 1) + "a|";
+        String[] ends = {"bbbbbb", "bbbbbbb", "bbbbbbbb", "bbbbbbb,b", "b(bbbb,bbb)"};
+        for (String end : ends) {
+            HornBench bench = Check.asked(program, "y(59,[" + end + "],X).");
+            bench.run(500);
+            text(bench, 0, before + end + "]");
+        }
+        ends[3] = "b(bbbbbb)";
+        for (String end : ends) {
+            HornBench bench = Check.asked(program, "y(59," + end + ",X).");
+            bench.run(500);
+            text(bench, 0, open + end + "]");
+        }
+    }
+
+    private static final String SUMS = "l(0,X,X). l(N,X,Y):-N>0,M is N-1,l(M,X+a,Y)."
+        + " r(0,X,X). r(N,X,Y):-N>0,M is N-1,r(M,b*X,Y)."
+        + " m(0,X,X). m(N,X,Y):-N>0,M is N-1,m(M,X mod c,Y).";
+
+    /** A term with operators around it: the outermost one alone is not in ( and ). */
+    private static String nested(int times, String before, String term, String behind) {
+        return Check.repeat(before.isEmpty() ? "(" : before + "(", times - 1) + before + term + behind
+            + Check.repeat(behind.isEmpty() ? ")" : ")" + behind, times - 1);
+    }
+
+    private static void lengthsOfSums() {
+        for (int letters = 1; letters <= 8; letters++) {
+            String start = Check.repeat("d", letters);
+            HornBench bench = Check.asked(SUMS, "l(149," + start + ",X),Y=f(X),V=X+Z,W=Z+X.");
+            bench.run(500);
+            String sum = nested(149, "", start, "+a");
+            text(bench, 0, sum);
+            text(bench, 1, "f(" + sum + ")");
+            text(bench, 2, "(" + sum + ")+_0");
+            text(bench, 4, "_0+(" + sum + ")");
+            bench = Check.asked(SUMS, "r(149," + start + ",X).");
+            bench.run(500);
+            text(bench, 0, nested(149, "b*", start, ""));
+            bench = Check.asked(SUMS, "m(75," + start + ",X).");
+            bench.run(500);
+            text(bench, 0, nested(75, "", start, " mod c"));
+        }
+    }
+
+    private static void lengthsOfGoals() {
+        String[] goals = {"f(X,aaa,bb)", "X=bbbbbbb", "bbbbbbb=X", "X\\=bbbbbb", "bbbbbb\\=X", "X==bbbbbb",
+            "X<bbbbbb", "bbbbbb>X", "X>=bbbbbb", "bbbbbb=<X", "X is bbbb", "bbbbb is X", "var(f(X))",
+            "not(X=b,!)", "not(!,b=X)", "not(not(X=1))"};
+        for (String goal : goals) {
+            for (int letters = 1; letters <= 8; letters++) {
+                String start = Check.repeat("d", letters);
+                HornBench bench = Check.asked(SUMS, "V=W,l(147," + start + ",X)," + goal + ".");
+                bench.run(1 + 147 * 3 + 1);
+                bench.write(0);
+                String due = goal.replace("X", nested(147, "", start, "+a"));
+                if (due.length() > 600) {
+                    CHECK.fails("writeGoal of " + goal, bench, IllegalStateException.class, bench::writeGoal);
+                    CHECK.same("the paper behind it", Check.paper(bench), "_0");
+                } else {
+                    CHECK.same("writeGoal of " + goal, Check.writtenGoal(bench), due);
+                }
+            }
+        }
+    }
+
+    private static void variablesFromFirstToLast() {
+        HornBench none = Check.asked("p.", "p.");
+        for (int k : new int[] {-1, 0, 1, 7, 8}) {
+            noSuchVariable("no variables", none, k);
+        }
+        HornBench one = Check.asked("", "X=a.");
+        one.run(1);
+        CHECK.same("the only one", Check.written(one, 0), "a");
+        noSuchVariable("one variable", one, 1);
+        noSuchVariable("one variable", one, -1);
+        HornBench eight = Check.asked("", "f(A,_,C,_)=f(1,2,3,4),f(_,F,_,H)=f(5,6,7,8).");
+        eight.run(500);
+        for (int k = 0; k < 8; k++) {
+            CHECK.same("one of eight", Check.written(eight, k), String.valueOf(k + 1));
+            CHECK.same("number of one of eight", eight.number(k), k + 1);
+            CHECK.isTrue("isSame of one of eight", eight.isSame(k, k) && !eight.isSame(k, 7 - k));
+        }
+        noSuchVariable("eight variables", eight, 8);
+        noSuchVariable("eight variables", eight, -1);
+        Check.ask(eight, "X=");
+        noSuchVariable("no question behind an error", eight, 0);
+    }
+
+    private static void noSuchVariable(String what, HornBench bench, int k) {
+        Class<IndexOutOfBoundsException> due = IndexOutOfBoundsException.class;
+        CHECK.fails(what + ": write(" + k + ")", bench, due, () -> bench.write(k));
+        CHECK.fails(what + ": number(" + k + ")", bench, due, () -> bench.number(k));
+        CHECK.fails(what + ": isSame(" + k + ", 0)", bench, due, () -> bench.isSame(k, 0));
+        CHECK.fails(what + ": isSame(0, " + k + ")", bench, due, () -> bench.isSame(0, k));
     }
 }

@@ -20,6 +20,10 @@ public final class StepsTest {
         aNewQuestionBeginsAnew();
         asMuchAsThereCanBe();
         manyFailingUnifications();
+        notsInNots();
+        behindAThousandSteps();
+        stepsAtOnce();
+        aThousandCuts();
         CHECK.end();
     }
 
@@ -373,5 +377,105 @@ public final class StepsTest {
         }
         Check.asked(bench, "p(f(X),f(Y,_,_),Z),Z>=37.");
         CHECK.same("the last two", Check.solutions(bench, 1), "f(_0) _0 2");
+    }
+
+    /** A question of 8 goals, with as many nots one within the other as there is room for. */
+    private static void notsInNots() {
+        String program = "p(1). p(2). p(3). q(X):-p(X),!. q(4).";
+        for (int nots = 1; nots <= 5; nots++) {
+            HornBench bench = Check.asked(program, "p(X)," + Check.repeat("not(", nots) + "p(_),!" + Check.repeat(")", nots) + ".");
+            boolean holds = nots % 2 == 0;
+            CHECK.same(nots + " nots, first", bench.run(500), holds ? nots + 3 : 3 * (nots + 3));
+            state(nots + " nots", bench, holds ? 1 : 2, 0, holds ? nots + 3 : 3 * (nots + 3), holds ? 1 : 0);
+            CHECK.same(nots + " nots: cuts", bench.count(8), holds ? 1 : 3);
+            CHECK.same(nots + " nots: all", Check.solutions(bench, 0), holds ? "2 3 2" : "2");
+        }
+        for (int nots = 1; nots <= 7; nots++) {
+            for (String goal : new String[] {"!", "true", "fail", "q(2)"}) {
+                boolean holds = goal.equals("fail") == (nots % 2 == 1);
+                HornBench bench = Check.asked(program, Check.repeat("not(", nots) + goal + Check.repeat(")", nots) + ".");
+                CHECK.same(nots + " nots of " + goal, bench.run(500), nots + (goal.equals("q(2)") ? 3 : 1));
+                CHECK.same(nots + " nots of " + goal + ": status", bench.status(), holds ? 1 : 2);
+            }
+        }
+        CHECK.same("a ! in each not", Check.solutions(program, "p(X),not(!,not(!,not(!,fail))).", 0), "1 2 3 2");
+        CHECK.same("a ! behind the nots", Check.solutions(program, "p(X),not(not(p(_))),!,p(Y).", 2), "1 2 3 2");
+        CHECK.same("a ! ahead of the nots", Check.solutions(program, "p(X),!,not(not(p(_))),p(Y).", 2), "1 2 3 2");
+    }
+
+    /** At the step that is the 1000th, and behind it. */
+    private static void behindAThousandSteps() {
+        String count = "c(0):-!. c(N):-N>0,M is N-1,c(M). d(0). d(1). e(0).";
+        HornBench bench = Check.asked(count, "c(332),d(X),e(X),true.");
+        Check.runOn(bench);
+        state("a goal is left", bench, 4, 1, 1000, 0);
+        CHECK.same("it can be written", Check.writtenGoal(bench), "true");
+        CHECK.same("what was bound stays", Check.written(bench, 0), "0");
+        CHECK.same("no run goes on", bench.run(1) + bench.run(500), 0);
+        bench = Check.asked(count, "c(332),d(X),fail.");
+        Check.runOn(bench);
+        state("a choice is left", bench, 4, 1, 1000, 0);
+        CHECK.same("it is gone back to", Check.written(bench, 0), "_0");
+        CHECK.same("no goal is first", Check.writtenGoal(bench), "");
+        bench = Check.asked(count, "c(332),d(X),e(X).");
+        Check.runOn(bench);
+        state("a solution", bench, 1, 0, 1000, 1);
+        CHECK.same("stepsEach of it", bench.stepsEach(), 1000.0);
+        CHECK.same("back", bench.run(500), 0);
+        state("a choice is left behind it, and e(X) behind d(X)", bench, 4, 1, 1000, 1);
+        CHECK.same("X is free again", Check.written(bench, 0), "_0");
+        CHECK.same("nothing to be written", Check.writtenGoal(bench), "");
+        bench = Check.asked(count, "true,c(332),e(X).");
+        Check.runOn(bench);
+        state("the last one", bench, 1, 0, 1000, 1);
+        bench.run(1);
+        state("none behind it", bench, 2, 0, 1000, 1);
+        bench = Check.asked(count, "c(332),true,not(fail).");
+        Check.runOn(bench);
+        state("in a not", bench, 4, 1, 1000, 0);
+        CHECK.same("the goal in the not", Check.writtenGoal(bench), "fail");
+        bench = Check.asked(count, "c(332),not(true).");
+        Check.runOn(bench);
+        state("a mark takes no step behind the last one", bench, 2, 0, 1000, 0);
+        bench = Check.asked(count, "c(332),not(fail).");
+        Check.runOn(bench);
+        state("nor does what is behind a not", bench, 1, 0, 1000, 1);
+        bench = Check.asked(count, "c(332),true,X is 1/0.");
+        Check.runOn(bench);
+        state("an error at the last step", bench, 3, 0, 1000, 0);
+        bench = Check.asked(count, "c(332),true,true,X is 1/0.");
+        Check.runOn(bench);
+        state("an error that is not come to", bench, 4, 1, 1000, 0);
+        bench = Check.asked(count, "c(331),true,true,true.");
+        Check.runOn(bench);
+        state("999 steps take a third run", bench, 1, 0, 998, 1);
+    }
+
+    private static void stepsAtOnce() {
+        for (int most : new int[] {1, 2, 3, 7, 499, 500}) {
+            HornBench bench = Check.asked("l:-l. s. s:-true. s.", "l.");
+            int done = 0;
+            for (int left = 1000; left > 0; left -= most) {
+                CHECK.same("run(" + most + ")", bench.run(most), Math.min(most, left));
+                done += Math.min(most, left);
+                state("run(" + most + ")", bench, done < 1000 ? 0 : 4, 1, done, 0);
+            }
+            Check.asked(bench, "true,s,s,fail.");
+            CHECK.same("up to the end", bench.run(most), Math.min(most, 26));
+            Check.asked(bench, "true,s,true.");
+            CHECK.same("up to a solution", bench.run(most), Math.min(most, 3));
+            Check.asked(bench, "true,true,X is a,true.");
+            CHECK.same("up to an error", bench.run(most), Math.min(most, 3));
+        }
+    }
+
+    private static void aThousandCuts() {
+        HornBench bench = Check.asked("l:-!,l. l.", "l.");
+        Check.runOn(bench);
+        state("a ! at each second step", bench, 4, 1, 1000, 0);
+        CHECK.same("cuts", bench.count(8), 500);
+        Check.asked(bench, "not(not(!,fail)),!.");
+        bench.run(500);
+        CHECK.same("cuts of another question", bench.count(8), 1);
     }
 }

@@ -9,14 +9,20 @@ public final class TermsTest {
         apartAndSame();
         free();
         values();
+        wrapAround();
         valuesThatAreNone();
         comparisons();
         sixtyOperators();
+        sixtyOfEach();
+        sixtyOnEachSide();
+        valuesOfManyClauses();
         numbers();
         isSame();
         sharedTerms();
         deepTerms();
         manyLongLists();
+        veryLongLists();
+        argumentsOfNames();
         CHECK.end();
     }
 
@@ -171,6 +177,32 @@ public final class TermsTest {
         holds("X=1+2,X is 3.", false);
     }
 
+    private static void wrapAround() {
+        String least = "65536*32768";
+        String greatest = "(65536*32768-1)";
+        solved("X is " + greatest + "+1.", 0, "-2147483648");
+        solved("X is " + greatest + "+0.", 0, "2147483647");
+        solved("X is " + least + "-1.", 0, "2147483647");
+        solved("X is " + least + "-0.", 0, "-2147483648");
+        solved("X is " + greatest + "-" + least + ".", 0, "-1");
+        solved("X is 0-" + least + ".", 0, "-2147483648");
+        solved("X is 0-" + greatest + "-1.", 0, "-2147483648");
+        solved("X is 0-" + greatest + "-2.", 0, "2147483647");
+        solved("X is " + greatest + "*2.", 0, "-2");
+        solved("X is " + greatest + "*" + greatest + ".", 0, "1");
+        solved("X is " + least + "* -1.", 0, "-2147483648");
+        solved("X is 46340*46340.", 0, "2147395600");
+        solved("X is 46341*46341.", 0, "-2147479015");
+        solved("X is -46341*46341.", 0, "2147479015");
+        solved("X is " + least + "/1.", 0, "-2147483648");
+        solved("X is " + greatest + "/ -1.", 0, "-2147483647");
+        solved("X is " + least + " mod 10.", 0, "-8");
+        solved("X is " + greatest + " mod 10.", 0, "7");
+        solved("X is 0/5.", 0, "0");
+        solved("X is -1/2.", 0, "0");
+        solved("X is -1 mod 1.", 0, "0");
+    }
+
     private static void valuesThatAreNone() {
         wrong("X is Y.");
         wrong("X is a.");
@@ -243,6 +275,54 @@ public final class TermsTest {
         sums("X=Z,b(31,1,Y),Z is Y-1.", 1, "2147483647");
         sums("X=Z,b(61,1,Y),Z is Y.", 3, "");
         sums("X=Z,b(60,a,Y),Z is Y.", 3, "");
+    }
+
+    /** As sums() does, with another operator at each of N places, one within the other. */
+    private static void sixtyOfEach() {
+        String[] operators = {"+2", "-2", "*2", "/2", " mod 7"};
+        long[] values = {121, -119, 0, 0, 1};
+        for (int k = 0; k < operators.length; k++) {
+            String program = "l(0,X,X). l(N,X,Y):-N>0,M is N-1,l(M,X" + operators[k] + ",Y).";
+            for (int depth = 59; depth <= 61; depth++) {
+                HornBench bench = Check.asked(program, "l(" + depth + ",1,Y),Z is Y.");
+                bench.run(500);
+                String what = depth + " times " + operators[k];
+                CHECK.same(what, bench.status(), depth <= 60 ? 1 : 3);
+                if (depth == 60) {
+                    CHECK.same(what + ": the value", bench.number(1), values[k]);
+                }
+            }
+        }
+    }
+
+    private static void sixtyOnEachSide() {
+        String[] relations = {"<", ">", "=<", ">="};
+        for (int depth = 60; depth <= 61; depth++) {
+            for (String relation : relations) {
+                boolean less = relation.charAt(0) == '<' || relation.equals("=<");
+                String left = "Y" + relation + (less ? "100" : "0");
+                String right = (less ? "0" : "100") + relation + "Y";
+                sums("X=Z,l(" + depth + ",0,Y)," + left + ",Z=1.", depth == 60 ? 1 : 3, "1");
+                sums("X=Z,r(" + depth + ",0,Y)," + right + ",Z=1.", depth == 60 ? 1 : 3, "1");
+            }
+            // The operators of both sides do not stand one within the other.
+            sums("X=Z,l(60,0,Y),r(60,0,W),Y=<W,Z=1.", 1, "1");
+            // What has no value, but stands on the left of is, is only unified.
+            sums("X=Z,l(" + depth + ",0,Y),not(Y is 1),Z=1.", 1, "1");
+        }
+    }
+
+    /** Each variable of each clause that was used has a value of its own. */
+    private static void valuesOfManyClauses() {
+        String program = "g(0,E,E). g(N,E,R):-N>0,M is N-1,A is N*7+3,B is N*N-5,g(M,A*B-E,R).";
+        HornBench bench = Check.asked(program, "A=1000,B=20,C=3,g(50,A-B+C,R),X is R+A*B+C.");
+        bench.run(500);
+        int due = 1000 - 20 + 3;
+        for (int n = 50; n > 0; n--) {
+            due = (n * 7 + 3) * (n * n - 5) - due;
+        }
+        CHECK.same("values of many clauses: status", bench.status(), 1);
+        CHECK.same("values of many clauses", bench.number(4), due + 1000 * 20 + 3);
     }
 
     private static void numbers() {
@@ -352,5 +432,41 @@ public final class TermsTest {
         Check.asked(bench, "X=[1,2],Y=[1,2],X==Y,[X|Y]==[Y|X],f(X,3)=f(Y,4).");
         CHECK.same("but for the last", bench.run(500), 5);
         CHECK.same("which fails", bench.status(), 2);
+    }
+
+    /** Two lists of 1400 elements are made in some 600 steps, and then met in one step. */
+    private static void veryLongLists() {
+        String program = "l(0,X,X). l(N,X,Y):-N>0,M is N-1,l(M,[" + Check.repeat("a,", 13) + "a|X],Y).";
+        String[] right = {"l(100,[],X),l(100,[],Y),X==Y,X=Y.", "l(100,[b],X),l(100,[c],Y),X\\=Y,not(X==Y).",
+            "l(100,[Z],X),l(100,[c],Y),not(X==Y),X=Y,X==Y,Z==c.", "l(100,[f(b)],X),l(100,[f(c)],Y),not(X=Y),f(b)=f(b)."};
+        for (String question : right) {
+            HornBench bench = Check.asked(program, question);
+            Check.runOn(bench);
+            CHECK.same(question, bench.status(), 1);
+        }
+        HornBench bench = Check.asked(program, "l(100,[b],X),l(100,[c],Y),X=Y.");
+        Check.runOn(bench);
+        CHECK.same("different at their ends", bench.status(), 2);
+        Check.asked(bench, "f(a,g(b))=f(X,g(Y)),f(X)\\=f(Y).");
+        Check.runOn(bench);
+        CHECK.same("a short one behind it", bench.status(), 1);
+    }
+
+    /** 0 to 4 arguments; the same name with another number of them is another one. */
+    private static void argumentsOfNames() {
+        String[] names = {"f", "f(1)", "f(1,1)", "f(1,1,1)", "f(1,1,1,1)"};
+        for (int k = 0; k < names.length; k++) {
+            for (int j = 0; j < names.length; j++) {
+                holds(names[k] + "=" + names[j] + ".", k == j);
+                holds(names[k] + "\\=" + names[j] + ".", k != j);
+                holds(names[k] + "==" + names[j] + ".", k == j);
+                CHECK.same("head " + names[k] + ", goal " + names[j],
+                    Check.solutions(names[k] + ".", names[j] + ",X=1.", 0), k == j ? "1 2" : "2");
+            }
+        }
+        holds("[]=f.", false);
+        holds("[a]=[a|[]].", true);
+        holds("[a,b|c]=[a|[b|c]].", true);
+        holds("[a,b|c]=[a,b,c].", false);
     }
 }
