@@ -1067,6 +1067,10 @@ public final class HornBench {
         private final int[] trail = new int[MOST_CELLS];
         private int trailed;
         private final Cells seen = new Cells();
+        /** The frame that was made last. */
+        private int newest;
+        /** Whether a variable of an older frame was bound since, perhaps to a term of the newest. */
+        private boolean isReached;
 
         Terms(Nodes nodes) {
             this.nodes = nodes;
@@ -1080,6 +1084,8 @@ public final class HornBench {
         /** Makes a frame, with variables that are not bound. */
         void open(int frame, int slot) {
             put(slots, frame, slot);
+            newest = frame;
+            isReached = false;
             for (int k = 0; k < MOST_VARIABLES; k++) {
                 put(bindings, frame * MOST_VARIABLES + k, NONE);
             }
@@ -1186,6 +1192,7 @@ public final class HornBench {
                 bindings[cell] = term;
                 trail[trailed] = cell;
                 trailed++;
+                isReached = isReached || cell / MOST_VARIABLES != newest;
             }
         }
 
@@ -1207,6 +1214,10 @@ public final class HornBench {
          * for a term can be told by few variables and be very large when it is written out.
          */
         boolean standsIn(int variable, int term) {
+            // No way leads from the older frames into the newest one as long as none was bound.
+            if (!isReached && isOfNewest(variable) && !isOfNewest(term)) {
+                return false;
+            }
             boolean found = false;
             int part = term;
             for (int k = 0; k <= MOST_CELLS && k <= seen.size() && !found; k++) {
@@ -1226,6 +1237,11 @@ public final class HornBench {
             }
             seen.empty();
             return found;
+        }
+
+        private boolean isOfNewest(int term) {
+            int frame = term >= CELLS ? (term - CELLS) / MOST_VARIABLES : term / Nodes.EACH;
+            return frame == newest;
         }
     }
 

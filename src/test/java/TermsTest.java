@@ -101,6 +101,18 @@ public final class TermsTest {
         holds("X=Y+1,Y=Z*2,Z=f(a,b,[X]).", false);
         CHECK.same("in a head", Check.solutions("q(X,X).", "q(Y,f(Y)).", 0), "2");
         CHECK.same("in a head, not", Check.solutions("q(X,X).", "q(Y,f(_)),Y=f(Z),Z=1.", 0), "f(1) 2");
+        String heads = "q(f(A),A). r(A,f(A)). s(Y,Z):-Y=f(A),A=Z. t(A,B,C):-C=f(A,B). u(A,B,B,A).";
+        String[] failing = {"q(Y,Y)", "q(Y,g(Y))", "q(Y,[1,Y])", "r(Y,Y)", "r(f(Y),Y)", "s(Y,Y)", "s(Y,h(Y))",
+            "t(X,Y,X)", "t(1,Y,Y)", "t([Y],Z,Z)", "u(X,f(X),Y,Y)", "u(X,Y,f(X),Y)", "Z=g(Y),q(Y,Z)", "Z=g(Y),s(Y,Z)"};
+        for (String goal : failing) {
+            CHECK.same("not " + goal, Check.solutions(heads, goal + ".", 0), "2");
+        }
+        String[][] right = {{"q(Y,g(Z))", "f(g(_0)) 2"}, {"q(Y,Z)", "f(_0) 2"}, {"r(g(Y),Y)", "2"}, {"r(Y,Z)", "_0 2"},
+            {"r(Y,f(g(Z)))", "g(_0) 2"}, {"s(Y,h(Z))", "f(h(_0)) 2"}, {"t(X,Y,Z)", "_0 2"}, {"t(Y,X,Z),X=g(Y)", "_0 2"},
+            {"u(X,f(Y),f(g(Z)),g(Y))", "g(g(_0)) 2"}, {"Z=g(Y),s(X,Z),Y=1", "g(1) 2"}};
+        for (String[] one : right) {
+            CHECK.same(one[0], Check.solutions(heads, one[0] + ".", 0), one[1]);
+        }
     }
 
     private static void clausesHaveNewVariables() {
