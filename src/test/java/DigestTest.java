@@ -1,3 +1,5 @@
+import java.math.BigInteger;
+
 /** Promise 19 (digest). */
 public final class DigestTest {
     private static final Check CHECK = new Check("DigestTest");
@@ -42,20 +44,25 @@ public final class DigestTest {
         CHECK.same("behind drop", bench.digest(), expected(bench));
     }
 
+    /** Counted without a bound, and cut to 64 bits in the end. */
     private static long expected(HornBench bench) {
-        long d = 389;
+        BigInteger d = BigInteger.valueOf(389);
         for (int what = 0; what <= 8; what++) {
-            d = d * 31 + bench.count(what);
+            d = next(d, bench.count(what));
         }
-        d = d * 31 + bench.status();
+        d = next(d, bench.status());
         for (int clause = 0; clause < bench.count(0); clause++) {
             for (int what = 0; what <= 3; what++) {
-                d = d * 31 + bench.clause(clause, what);
+                d = next(d, bench.clause(clause, what));
             }
         }
         for (int k = 0; k < bench.count(3); k++) {
-            d = d * 31 + bench.byteAt(k);
+            d = next(d, bench.byteAt(k));
         }
-        return d;
+        return d.longValue();
+    }
+
+    private static BigInteger next(BigInteger d, int x) {
+        return d.multiply(BigInteger.valueOf(31)).add(BigInteger.valueOf(x));
     }
 }

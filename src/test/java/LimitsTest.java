@@ -275,6 +275,10 @@ public final class LimitsTest {
         bench = Check.asked("a(A,B,C,D):-b(E,F,G,H),A=1,B=A,C=[A,B],D=E,F=7,G=H,H=8. b(2,F,G,H):-F=7.",
             "a(A,B,C,D),b(E,F,G,H),E==D.");
         bench.run(500);
+        CHECK.same("4 arguments", bench.clause(0, 0), 4);
+        CHECK.same("8 goals", bench.clause(0, 1), 8);
+        CHECK.same("8 variables", bench.clause(0, 2), 8);
+        CHECK.same("8 variables of the question", bench.count(4), 8);
         String[] due = {"1", "1", "[1,1]", "2", "2", "7", "_0", "_0"};
         for (int k = 0; k < 8; k++) {
             CHECK.same("4 arguments, 8 variables, 8 goals", Check.written(bench, k), due[k]);

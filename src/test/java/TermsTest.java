@@ -101,15 +101,18 @@ public final class TermsTest {
         holds("X=Y+1,Y=Z*2,Z=f(a,b,[X]).", false);
         CHECK.same("in a head", Check.solutions("q(X,X).", "q(Y,f(Y)).", 0), "2");
         CHECK.same("in a head, not", Check.solutions("q(X,X).", "q(Y,f(_)),Y=f(Z),Z=1.", 0), "f(1) 2");
-        String heads = "q(f(A),A). r(A,f(A)). s(Y,Z):-Y=f(A),A=Z. t(A,B,C):-C=f(A,B). u(A,B,B,A).";
+        String heads = "q(f(A),A). r(A,f(A)). s(Y,Z):-Y=f(A),A=Z. t(A,B,C):-C=f(A,B). u(A,B,B,A)."
+            + " e. v(A,B):-e,B=f(A). w(A,B):-v(A,C),e,B=C.";
         String[] failing = {"q(Y,Y)", "q(Y,g(Y))", "q(Y,[1,Y])", "r(Y,Y)", "r(f(Y),Y)", "s(Y,Y)", "s(Y,h(Y))",
-            "t(X,Y,X)", "t(1,Y,Y)", "t([Y],Z,Z)", "u(X,f(X),Y,Y)", "u(X,Y,f(X),Y)", "Z=g(Y),q(Y,Z)", "Z=g(Y),s(Y,Z)"};
+            "t(X,Y,X)", "t(1,Y,Y)", "t([Y],Z,Z)", "u(X,f(X),Y,Y)", "u(X,Y,f(X),Y)", "Z=g(Y),q(Y,Z)", "Z=g(Y),s(Y,Z)",
+            "v(X,X)", "w(X,X)", "e,v(g(X),X)", "Z=g(Y),w(Z,Y)"};
         for (String goal : failing) {
             CHECK.same("not " + goal, Check.solutions(heads, goal + ".", 0), "2");
         }
         String[][] right = {{"q(Y,g(Z))", "f(g(_0)) 2"}, {"q(Y,Z)", "f(_0) 2"}, {"r(g(Y),Y)", "2"}, {"r(Y,Z)", "_0 2"},
             {"r(Y,f(g(Z)))", "g(_0) 2"}, {"s(Y,h(Z))", "f(h(_0)) 2"}, {"t(X,Y,Z)", "_0 2"}, {"t(Y,X,Z),X=g(Y)", "_0 2"},
-            {"u(X,f(Y),f(g(Z)),g(Y))", "g(g(_0)) 2"}, {"Z=g(Y),s(X,Z),Y=1", "g(1) 2"}};
+            {"u(X,f(Y),f(g(Z)),g(Y))", "g(g(_0)) 2"}, {"Z=g(Y),s(X,Z),Y=1", "g(1) 2"},
+            {"v(X,Y),X=1", "1 2"}, {"w(X,Y),X=Z", "_0 2"}};
         for (String[] one : right) {
             CHECK.same(one[0], Check.solutions(heads, one[0] + ".", 0), one[1]);
         }
@@ -335,6 +338,11 @@ public final class TermsTest {
         }
         CHECK.same("values of many clauses: status", bench.status(), 1);
         CHECK.same("values of many clauses", bench.number(4), due + 1000 * 20 + 3);
+        String sums = "v(A,B,A*10+B). w(A,B,C,A*100+B*10+C).";
+        CHECK.same("one behind the other",
+            Check.solutions(sums, "v(1,2,X),v(3,4,Y),v(5,6,Z),W is (X*100+Y)*100+Z.", 3), "123456 2");
+        CHECK.same("three of each",
+            Check.solutions(sums, "w(1,2,3,X),w(4,5,6,Y),w(7,8,9,Z),W is (X*1000+Y)*1000+Z.", 3), "123456789 2");
     }
 
     private static void numbers() {
